@@ -600,7 +600,9 @@ public final class PressSheets {
         private final int[] alone = new int[COPY_SETS];
         /** Of each set of copies: the slips that make it the groups in hand, or fewer. */
         private final int[] parted = new int[COPY_SETS];
+        /** Of each letter that the place in hand has: the copies that have it. */
         private final int[] readers = new int[LETTERS];
+        private int lettersHere;
 
         int fewestSlips(Forme f, int n) {
             if (n >= f.groups) {
@@ -621,11 +623,20 @@ public final class PressSheets {
         private void countAlone(Forme f, int all) {
             Arrays.fill(alone, 0);
             for (int p = 0; p < PLACES; p++) {
-                for (int k = 0; k < LETTERS; k++) {
-                    readers[k] = f.readersOf(p, k);
-                }
+                takeReaders(f, p);
                 for (int set = all; set > 0; set = (set - 1) & all) {
                     alone[set] += slipsAtPlace(set);
+                }
+            }
+        }
+
+        private void takeReaders(Forme f, int place) {
+            lettersHere = 0;
+            for (int k = 0; k < LETTERS; k++) {
+                int set = f.readersOf(place, k);
+                if (set != 0) {
+                    readers[lettersHere] = set;
+                    lettersHere++;
                 }
             }
         }
@@ -634,7 +645,7 @@ public final class PressSheets {
         private int slipsAtPlace(int set) {
             int sum = 0;
             int most = 0;
-            for (int k = 0; k < LETTERS; k++) {
+            for (int k = 0; k < lettersHere; k++) {
                 int with = Integer.bitCount(set & readers[k]);
                 sum += with;
                 most = Math.max(most, with);
@@ -745,16 +756,19 @@ public final class PressSheets {
         private int restBehind(int gone, int last) {
             int best = NO_ORDER;
             for (int next = 0; next < states; next++) {
-                best = join(best, restThrough(gone, last, next));
+                if (mayCome(gone, next)) {
+                    best = join(best, restThrough(gone, last, next));
+                }
             }
             return best;
         }
 
-        /** What is left to come, if this state comes next. */
+        private boolean mayCome(int gone, int next) {
+            return (gone >> next & 1) == 0 && (needs[next] & ~gone) == 0;
+        }
+
+        /** What is left to come, if this state, which may, comes next. */
         private int restThrough(int gone, int last, int next) {
-            if ((gone >> next & 1) != 0 || (needs[next] & ~gone) != 0) {
-                return NO_ORDER;
-            }
             int rest = rests[(gone | 1 << next) * COPIES + next];
             if (rest == NO_ORDER || last == NONE) {
                 return rest;
@@ -790,7 +804,7 @@ public final class PressSheets {
 
         private int leastNext(int gone, int last, int left) {
             for (int next = 0; next < states; next++) {
-                int rest = restThrough(gone, last, next);
+                int rest = mayCome(gone, next) ? restThrough(gone, last, next) : NO_ORDER;
                 if (rest != NO_ORDER && rest / SPAN == left) {
                     return next;
                 }
