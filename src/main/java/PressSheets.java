@@ -466,7 +466,7 @@ public final class PressSheets {
             return x != NONE && y != NONE && x != y;
         }
 
-        /** What follows in this class asks for groups, and holds only behind this. */
+        /** Made when they are asked for, not as each reading comes: see grouped(forme). */
         void makeGroups() {
             lookedAt = copiesLookedAt();
             for (int c = 0; c < COPIES; c++) {

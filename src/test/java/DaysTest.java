@@ -83,6 +83,8 @@ public final class DaysTest {
         x.piece(4, 5, 1);
         Check.due("through another", x.must(2, 5), 1);
         Check.due("which does not share", x.share(2, 5), 0);
+        Check.due("4 shares by piece 3", x.share(4, 1), 1);
+        Check.due("4 shares by piece 4 too", x.share(4, 5), 1);
         Check.due("share with itself", x.share(2, 2), 1);
         Check.due("one that is not told of", x.share(0, 0), 0);
         Check.due("not ahead of itself", x.must(2, 2), 0);

@@ -19,18 +19,6 @@ public final class OrdersTest {
         Check.finish();
     }
 
-    private static PressSheets sheets(int forme, String... rows) {
-        PressSheets x = new PressSheets();
-        for (int c = 0; c < rows.length; c++) {
-            for (int p = 0; p < rows[c].length(); p++) {
-                if (rows[c].charAt(p) != '.') {
-                    x.read(c, forme, p, rows[c].charAt(p) - '0');
-                }
-            }
-        }
-        return x;
-    }
-
     private static void order(String what, PressSheets x, int forme, int... want) {
         for (int i = 0; i < want.length; i++) {
             Check.due(what + ": first(" + forme + ", " + i + ")", x.first(forme, i), want[i]);
@@ -79,7 +67,7 @@ public final class OrdersTest {
     }
 
     private static void aheadOnlyInForce() {
-        PressSheets x = sheets(0, "1", "2", "1");
+        PressSheets x = Copies.of(0, "1", "2", "1");
         x.ahead(0, 2, 0, true);
         Check.due("of one state", x.orders(0), 2);
         x.ahead(0, 5, 0, true);
@@ -95,7 +83,7 @@ public final class OrdersTest {
     }
 
     private static void changesOfStates() {
-        PressSheets x = sheets(0, "12....", "13.4..", "2..5..", ".3....");
+        PressSheets x = Copies.of(0, "12....", "13.4..", "2..5..", ".3....");
         Check.due("states", x.states(0), 3);
         Check.due("0 and 1", x.changes(0, 0, 1), 1);
         Check.due("0 and 2: only where both have letters", x.changes(0, 0, 2), 1);
@@ -106,7 +94,7 @@ public final class OrdersTest {
 
     private static void leastOrders() {
         // A chain 0 - 2 - 1: each step one change, the ends two apart.
-        PressSheets x = sheets(2, "11", "22", "12");
+        PressSheets x = Copies.of(2, "11", "22", "12");
         Check.due("least", x.least(2), 2);
         Check.due("orders", x.orders(2), 2);
         order("chain", x, 2, 0, 2, 1);
@@ -119,7 +107,7 @@ public final class OrdersTest {
     }
 
     private static void firstOfThem() {
-        PressSheets x = sheets(0, "1", "2", "3");
+        PressSheets x = Copies.of(0, "1", "2", "3");
         Check.due("all", x.orders(0), 6);
         order("all", x, 0, 0, 1, 2);
         x.ahead(0, 2, 0, true);
@@ -134,7 +122,7 @@ public final class OrdersTest {
     }
 
     private static void beforeInLeastOnly() {
-        PressSheets x = sheets(0, "11", "22", "12");
+        PressSheets x = Copies.of(0, "11", "22", "12");
         Check.due("0 ahead of 1", x.before(0, 0, 1), 1);
         Check.due("2 ahead of 0", x.before(0, 2, 0), 1);
         x.ahead(0, 0, 1, true);
@@ -146,7 +134,7 @@ public final class OrdersTest {
     }
 
     private static void noOrder() {
-        PressSheets x = sheets(1, "1", "2", "3");
+        PressSheets x = Copies.of(1, "1", "2", "3");
         x.ahead(1, 0, 1, true);
         x.ahead(1, 1, 2, true);
         order("line", x, 1, 0, 1, 2);
@@ -161,7 +149,7 @@ public final class OrdersTest {
     }
 
     private static void oneState() {
-        PressSheets x = sheets(3, "1", "1");
+        PressSheets x = Copies.of(3, "1", "1");
         Check.due("least", x.least(3), 0);
         Check.due("orders", x.orders(3), 1);
         order("one", x, 3, 0);
@@ -170,7 +158,7 @@ public final class OrdersTest {
     }
 
     private static void ordersFollowWhatIsTold() {
-        PressSheets x = sheets(0, "1", "2");
+        PressSheets x = Copies.of(0, "1", "2");
         Check.due("two", x.orders(0), 2);
         x.read(2, 0, 0, 3);
         Check.due("six", x.orders(0), 6);
@@ -185,7 +173,7 @@ public final class OrdersTest {
     }
 
     private static void nineStates() {
-        PressSheets x = sheets(4, "000000", "111111", "222222", "333333", "444444", "555555", "666666", "777777", "888888");
+        PressSheets x = Copies.of(4, "000000", "111111", "222222", "333333", "444444", "555555", "666666", "777777", "888888");
         Check.due("least", x.least(4), 48);
         Check.due("orders", x.orders(4), 362880);
         order("nine", x, 4, 0, 1, 2, 3, 4, 5, 6, 7, 8);
@@ -200,7 +188,7 @@ public final class OrdersTest {
     }
 
     private static void refusals() {
-        PressSheets x = sheets(0, "1", "2");
+        PressSheets x = Copies.of(0, "1", "2");
         for (int bad : Check.NOWHERE) {
             Check.due("changes forme", x.changes(bad, 0, 1), UNKNOWN);
             Check.due("changes a", x.changes(0, bad, 1), UNKNOWN);

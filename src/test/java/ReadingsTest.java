@@ -20,19 +20,6 @@ public final class ReadingsTest {
         Check.finish();
     }
 
-    /** A row a copy, a sign a place; '.' is no reading. */
-    private static PressSheets sheets(int forme, String... rows) {
-        PressSheets x = new PressSheets();
-        for (int c = 0; c < rows.length; c++) {
-            for (int p = 0; p < rows[c].length(); p++) {
-                if (rows[c].charAt(p) != '.') {
-                    Check.due("read", x.read(c, forme, p, rows[c].charAt(p) - '0'), NONE);
-                }
-            }
-        }
-        return x;
-    }
-
     private static void groups(String what, PressSheets x, int forme, int... want) {
         for (int c = 0; c < want.length; c++) {
             Check.due(what + ": state(" + forme + ", " + c + ")", x.state(forme, c), want[c]);
@@ -65,7 +52,7 @@ public final class ReadingsTest {
     }
 
     private static void readRefuses() {
-        PressSheets x = sheets(0, "1", "2");
+        PressSheets x = Copies.of(0, "1", "2");
         for (int bad : Check.NOWHERE) {
             Check.due("copy", x.read(bad, 0, 0, 3), UNKNOWN);
             Check.due("forme", x.read(0, bad, 0, 3), UNKNOWN);
@@ -84,7 +71,7 @@ public final class ReadingsTest {
     }
 
     private static void agreeLooksAtCommonPlaces() {
-        PressSheets x = sheets(2, "12....", "1.3...", ".4....");
+        PressSheets x = Copies.of(2, "12....", "1.3...", ".4....");
         Check.due("alike", x.agree(2, 0, 1), 1);
         Check.due("unlike", x.agree(2, 0, 2), 0);
         Check.due("unlike the other way", x.agree(2, 2, 0), 0);
@@ -96,27 +83,27 @@ public final class ReadingsTest {
 
     private static void statesAreFewest() {
         // A copy that agrees with two that do not is in one of them, the lesser.
-        PressSheets x = sheets(1, "1", "2", ".5");
+        PressSheets x = Copies.of(1, "1", "2", ".5");
         Check.due("three copies", x.states(1), 2);
         groups("three copies", x, 1, 0, 1, 0, NONE);
         // To put each copy into the first group that it agrees with would make three.
-        x = sheets(1, "1..", ".1.", "1.3", ".14", "2.4", ".23");
+        x = Copies.of(1, "1..", ".1.", "1.3", ".14", "2.4", ".23");
         Check.due("greedy is not fewest", x.states(1), 2);
         groups("greedy is not fewest", x, 1, 0, 1, 0, 1, 1, 0, NONE);
     }
 
     private static void statesOfLikeOnesTakeLeastNumbers() {
         // 0 and 1 agree, but together they leave 2 and 3 no place in two groups.
-        PressSheets x = sheets(0, "1...", "..1.", "1.2.", "2.1.");
+        PressSheets x = Copies.of(0, "1...", "..1.", "1.2.", "2.1.");
         Check.due("two", x.states(0), 2);
         groups("not the greedy one", x, 0, 0, 1, 0, 1);
-        x = sheets(0, "1.", "2.", ".1", ".2");
+        x = Copies.of(0, "1.", "2.", ".1", ".2");
         Check.due("two and two", x.states(0), 2);
         groups("two and two", x, 0, 0, 1, 0, 1);
     }
 
     private static void stateAndLetter() {
-        PressSheets x = sheets(4, "1.....", ".2....", "3..4..");
+        PressSheets x = Copies.of(4, "1.....", ".2....", "3..4..");
         Check.due("states", x.states(4), 2);
         groups("joined", x, 4, 0, 0, 1, NONE);
         Check.due("letter of copy 0", x.letter(4, 0, 0), 1);
@@ -128,7 +115,7 @@ public final class ReadingsTest {
     }
 
     private static void statesFollowReadings() {
-        PressSheets x = sheets(0, "1", "2", "3");
+        PressSheets x = Copies.of(0, "1", "2", "3");
         Check.due("three", x.states(0), 3);
         x.read(1, 0, 0, 1);
         groups("1 has joined 0", x, 0, 0, 0, 1);
@@ -140,7 +127,7 @@ public final class ReadingsTest {
     }
 
     private static void slipsAreFewest() {
-        PressSheets x = sheets(3, "11", "11", "12", "22", "3.");
+        PressSheets x = Copies.of(3, "11", "11", "12", "22", "3.");
         Check.due("states", x.states(3), 4);
         Check.due("one group", x.slips(3, 1), 4);
         Check.due("two groups", x.slips(3, 2), 2);
@@ -210,7 +197,7 @@ public final class ReadingsTest {
     }
 
     private static void refusals() {
-        PressSheets x = sheets(0, "1", "2");
+        PressSheets x = Copies.of(0, "1", "2");
         for (int bad : Check.NOWHERE) {
             Check.due("agree forme", x.agree(bad, 0, 1), UNKNOWN);
             Check.due("agree a", x.agree(0, bad, 1), UNKNOWN);
@@ -234,7 +221,7 @@ public final class ReadingsTest {
     }
 
     private static void nineCopies() {
-        PressSheets x = sheets(5, "000000", "111111", "222222", "333333", "444444", "555555", "666666", "777777", "888888");
+        PressSheets x = Copies.of(5, "000000", "111111", "222222", "333333", "444444", "555555", "666666", "777777", "888888");
         Check.due("nine states", x.states(5), 9);
         groups("nine", x, 5, 0, 1, 2, 3, 4, 5, 6, 7, 8);
         Check.due("count", x.count(0), 54);
