@@ -25,6 +25,7 @@ public final class MenEdgesTest {
         settingThatCostsNoChangeAheadOfPageZero();
         settingWhereChangeIsAsDear();
         settingOfTheGreatestChange();
+        settingFollowsEachTelling();
         whoIsTheLeastPageByPage();
         whoOfTheLastPageAndTheFirstThatIsNot();
         sureOfOneMan();
@@ -377,6 +378,30 @@ public final class MenEdgesTest {
         x.change(0);
         Check.due("changes cost nothing", x.setting(), 0);
         men("each his own", x, 0, 1);
+    }
+
+    /** Asked between tellings, each of which counts at once. */
+    private static void settingFollowsEachTelling() {
+        PressSheets x = new PressSheets();
+        Check.due("nothing told", x.setting(), 0);
+        x.habit(0, 5, 0);
+        x.habit(1, 5, 0);
+        Check.due("no words", x.setting(), 0);
+        x.spell(3, 5, 1, 9);
+        Check.due("words against both", x.setting(), 9);
+        Check.due("both", x.settings(), 2);
+        x.habit(1, 5, 1);
+        Check.due("against man 0 alone", x.setting(), 0);
+        men("man 1", x, 1, 1, 1, 1);
+        x.spell(0, 5, 0, 9);
+        Check.due("a change", x.setting(), 3);
+        men("as late as can be", x, 0, 0, 0, 1);
+        x.change(99);
+        Check.due("no change", x.setting(), 9);
+        Check.due("either", x.settings(), 2);
+        x.house(2, 3);
+        Check.due("page 3 is gone", x.setting(), 0);
+        sure("man 0", x, 1, 1, 1);
     }
 
     // ---- promises 35 and 36

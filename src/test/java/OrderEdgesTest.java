@@ -31,8 +31,10 @@ public final class OrderEdgesTest {
         firstOfNone();
         firstWithoutAnOrder();
         firstIsByNumbersOfStates();
+        firstIsOneOfTheLeast();
         beforeBothAreOne();
         beforeAndBehindAreAll();
+        beforeNotInDearerOrders();
         beforeWithoutAnOrder();
         beforeOfTheLastState();
         ordersOfOtherFormesStay();
@@ -357,6 +359,17 @@ public final class OrderEdgesTest {
         order("and of 2", x, 0, 3, 0, 1, 2);
     }
 
+    /** The first of the least orders, not the first that keeps what is told. */
+    private static void firstIsOneOfTheLeast() {
+        PressSheets x = Copies.of(0, "11", "22", "12");
+        order("2 lies between", x, 0, 0, 2, 1);
+        x.ahead(0, 2, 0, true);
+        order("from the other end", x, 0, 1, 2, 0);
+        x.ahead(0, 2, 1, true);
+        order("both ends behind 2: one is far", x, 0, 2, 0, 1);
+        Check.due("dearer", x.least(0), 3);
+    }
+
     // ---- promise 13
 
     private static void beforeBothAreOne() {
@@ -380,6 +393,17 @@ public final class OrderEdgesTest {
         x.ahead(0, 3, 0, true);
         Check.due("told", x.before(0, 3, 0), x.orders(0));
         Check.due("against what is told", x.before(0, 0, 3), 0);
+    }
+
+    /** Orders that keep what is told, but cost more, are not of the least. */
+    private static void beforeNotInDearerOrders() {
+        PressSheets x = Copies.of(0, "11", "22", "12");
+        x.ahead(0, 0, 1, true);
+        Check.due("the one least order", x.orders(0), 1);
+        Check.due("0, 2, 1", x.before(0, 0, 2), 1);
+        Check.due("2, 0, 1 would cost more", x.before(0, 2, 0), 0);
+        Check.due("2 ahead of 1", x.before(0, 2, 1), 1);
+        Check.due("0, 1, 2 would cost more", x.before(0, 1, 2), 0);
     }
 
     private static void beforeWithoutAnOrder() {
