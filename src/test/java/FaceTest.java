@@ -1,99 +1,85 @@
-import java.io.IOException;
 import java.lang.reflect.Field;
 import java.lang.reflect.Method;
 import java.lang.reflect.Modifier;
-import java.nio.file.Files;
-import java.nio.file.Path;
-import java.util.Arrays;
 import java.util.Set;
+import java.util.StringJoiner;
 import java.util.TreeSet;
-import java.util.regex.Matcher;
-import java.util.regex.Pattern;
 
-/** The public face, and what of LANGUAGE.md a test can see. */
+/** The public face of the document, nothing less and nothing more, and the room that an object takes. */
 public final class FaceTest {
-    private static final String[] CALLS = {
-        "read", "agree", "states", "state", "letter", "slips",
-        "ahead", "changes", "least", "orders", "first", "before",
-        "piece", "share", "must", "ring", "presses", "plans", "day", "beside", "fewest",
-        "sheet", "size", "seen", "turns", "turned", "bound",
-        "house", "habit", "spell", "change", "against", "setting", "who", "sure", "settings", "count"};
-    private static final String[] CONSTANTS = {"UNKNOWN", "OUTSIDE", "STATE", "NONE"};
-    private static final String[] BANNED = {
-        "\\bthrow\\b", "\\btry\\b", "\\bcatch\\b", "\\bassert\\b", "\\bsynchronized\\b", "->", "::",
-        "\\w+Exact\\b", "\\bSystem\\.(?!arraycopy\\b)", "\\bRandom\\b", "\\bThread\\b", "\\bObject\\b"};
+    private static final Set<String> CALLS = Set.of(
+        "read(int, int, int, int)", "agree(int, int, int)", "states(int)", "state(int, int)",
+        "letter(int, int, int)", "slips(int, int)",
+        "ahead(int, int, int, boolean)", "changes(int, int, int)", "least(int)", "orders(int)",
+        "first(int, int)", "before(int, int, int)",
+        "piece(int, int, int)", "share(int, int)", "must(int, int)", "ring()", "presses(int)", "plans(int)",
+        "day(int, int)", "beside(int, int, int)", "fewest()",
+        "sheet(int, int)", "size(int)", "seen(int, int, int)", "turns(int)", "turned(int, int)",
+        "bound(int, int, boolean)",
+        "house(int, int)", "habit(int, int, int)", "spell(int, int, int, int)", "change(int)", "against(int, int)",
+        "setting()", "who(int)", "sure(int)", "settings()", "count(int)");
+    private static final Set<String> CONSTANTS = Set.of("UNKNOWN", "OUTSIDE", "STATE", "NONE");
 
-    public static void main(String[] args) throws IOException {
-        constants();
-        members();
-        nestedClasses();
-        source();
+    public static void main(String[] args) {
+        Class<?> c = PressSheets.class;
+        Check.holds("public and final", Modifier.isPublic(c.getModifiers()) && Modifier.isFinal(c.getModifiers()));
+        Check.holds("of no other class", c.getSuperclass() == Object.class && c.getInterfaces().length == 0);
+        Check.holds("no package", c.getPackageName().isEmpty());
+        Check.due("one constructor", c.getDeclaredConstructors().length, 1);
+        Check.due("it is public", c.getConstructors().length, 1);
+        Check.due("it takes nothing", c.getDeclaredConstructors()[0].getParameterCount(), 0);
+        constants(c);
+        calls(c);
+        Check.due("classes inside that can be seen", c.getClasses().length, 0);
         room();
         Check.finish();
     }
 
-    private static void constants() {
+    private static void constants(Class<?> c) {
         Check.due("UNKNOWN", PressSheets.UNKNOWN, -900001);
         Check.due("OUTSIDE", PressSheets.OUTSIDE, -900002);
         Check.due("STATE", PressSheets.STATE, -900003);
         Check.due("NONE", PressSheets.NONE, -900009);
-    }
-
-    private static void members() {
-        Class<?> c = PressSheets.class;
-        Check.holds("public and final", Modifier.isPublic(c.getModifiers()) && Modifier.isFinal(c.getModifiers()));
-        Check.due("one constructor", c.getDeclaredConstructors().length, 1);
-        Check.due("it is public", c.getConstructors().length, 1);
-        Set<String> seen = new TreeSet<>();
-        for (Method m : c.getDeclaredMethods()) {
-            boolean ofFace = Arrays.asList(CALLS).contains(m.getName());
-            Check.holds(m.getName() + " is as the face says", ofFace == Modifier.isPublic(m.getModifiers()));
-            Check.holds(m.getName() + " is of the face, or private", ofFace || Modifier.isPrivate(m.getModifiers()));
-            if (ofFace) {
-                Check.holds(m.getName() + " is there once", seen.add(m.getName()));
-                Check.holds(m.getName() + " answers an int", m.getReturnType() == int.class);
-            }
-        }
-        Check.due("all calls", seen.size(), 37);
+        int ofFace = 0;
         for (Field f : c.getDeclaredFields()) {
-            boolean ofFace = Arrays.asList(CONSTANTS).contains(f.getName());
-            Check.holds(f.getName() + " is of the face, or private",
-                ofFace ? Modifier.isPublic(f.getModifiers()) : Modifier.isPrivate(f.getModifiers()));
-        }
-    }
-
-    private static void nestedClasses() {
-        Class<?>[] inside = PressSheets.class.getDeclaredClasses();
-        Check.holds("at most twelve classes", inside.length < 12);
-        for (Class<?> c : inside) {
-            Check.holds(c.getName() + " is static", Modifier.isStatic(c.getModifiers()));
-            int fields = 0;
-            for (Field f : c.getDeclaredFields()) {
-                boolean isStatic = Modifier.isStatic(f.getModifiers());
-                Check.holds(f.getName() + " is final, if static", !isStatic || Modifier.isFinal(f.getModifiers()));
-                fields += isStatic ? 0 : 1;
-            }
-            Check.holds(c.getName() + " has at most twenty fields", fields <= 20);
-            for (Method m : c.getDeclaredMethods()) {
-                Check.holds(m.getName() + " is no name of the face", !Arrays.asList(CALLS).contains(m.getName()));
-                Check.holds(m.getName() + " takes at most seven", m.getParameterCount() <= 7);
+            int how = f.getModifiers();
+            if (CONSTANTS.contains(f.getName())) {
+                ofFace++;
+                Check.holds(f.getName() + " is a public constant",
+                    Modifier.isPublic(how) && Modifier.isStatic(how) && Modifier.isFinal(how));
+                Check.holds(f.getName() + " is an int", f.getType() == int.class);
+            } else {
+                Check.holds(f.getName() + " is private", Modifier.isPrivate(how));
             }
         }
+        Check.due("all constants", ofFace, CONSTANTS.size());
     }
 
-    /** .ci/run starts the tests in the project's folder. */
-    private static void source() throws IOException {
-        String text = Files.readString(Path.of("src/main/java/PressSheets.java"));
-        String code = text.replaceAll("(?s)/\\*.*?\\*/", "").replaceAll("//[^\n]*", "");
-        for (String word : BANNED) {
-            Matcher found = Pattern.compile(word).matcher(code);
-            Check.holds("no " + word, !found.find());
+    private static void calls(Class<?> c) {
+        Set<String> found = new TreeSet<>();
+        for (Method m : c.getDeclaredMethods()) {
+            int how = m.getModifiers();
+            if (Modifier.isPublic(how)) {
+                found.add(line(m));
+                Check.holds(line(m) + " answers an int", m.getReturnType() == int.class);
+                Check.holds(line(m) + " is an object's", !Modifier.isStatic(how));
+            } else {
+                Check.holds(line(m) + " is private", Modifier.isPrivate(how));
+            }
         }
-        Matcher imports = Pattern.compile("import ([^;]*);").matcher(code);
-        while (imports.find()) {
-            Check.holds("import " + imports.group(1), imports.group(1).equals("java.util.Arrays"));
+        for (String call : CALLS) {
+            Check.holds(call + " is there", found.contains(call));
         }
-        Check.holds("no package line", !Pattern.compile("(?m)^package ").matcher(code).find());
+        Check.due("no other", found.size(), CALLS.size());
+        Check.due("all calls of the document", CALLS.size(), 37);
+    }
+
+    private static String line(Method m) {
+        StringJoiner types = new StringJoiner(", ", m.getName() + "(", ")");
+        for (Class<?> type : m.getParameterTypes()) {
+            types.add(type.getName());
+        }
+        return types.toString();
     }
 
     /** All rows are made with the object: 512 objects fit into the room of one run. */
